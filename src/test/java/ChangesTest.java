@@ -214,6 +214,10 @@ public final class ChangesTest {
         Check.due("sacks lost in the ford", u.value(5), 2);
         Check.due("DAY of the loss", u.sack(1, 6), 0);
         MuleTrain v = Check.loaded("train 99 0 9;mule a 100;sack glass 40 50;sack glass 11 1;ford 6;ford 5;ford 6;road 50;pack 0 a left;pack 1 a right;trip");
+        // Both fords of 6 take a sack; what broke in the first one is not lost again in the second.
+        MuleTrain w = Check.loaded("train 99 0 0;mule a 100;sack iron 31 1;sack iron 21 2;sack glass 9 50;sack glass 9 40;ford 4;ford 7;pack 0 a left;pack 1 a right;pack 2 a left;pack 3 a left;trip");
+        Check.due("WORTH of glass that broke once", w.count(4), 90);
+        Check.due("gap() behind two fords that break", w.gap(), 0);
         Check.due("MONEY of broken glass", v.value(8), -9);
         Check.due("count(4) of broken glass", v.count(4), 50);
         Check.due("count(6) of broken glass", v.count(6), 3);
@@ -237,6 +241,13 @@ public final class ChangesTest {
             Check.due("WORTH of " + sack + " at 5 and 9", twice.sack(sack, 2), later[sack]);
         }
         Check.due("sacks that get wet at 5 and 9", twice.count(6), 14);
+        // What is wet is worth 5 as it is lost: less than the iron, of which it was told to be worth more.
+        MuleTrain worse = Check.loaded("train 99 0 0;mule a 100;sack grain 9 10;sack iron 9 7;ford 5;ford 9;pack 1 a left;pack 0 a right;trip");
+        Check.due("WORTH lost behind wetting", worse.count(2), 5);
+        Check.due("PLACE of the grain behind wetting", worse.sack(0, 3), 3);
+        Check.due("PLACE of the iron behind wetting", worse.sack(1, 3), 2);
+        MuleTrain other = Check.loaded("train 99 0 0;mule a 100;sack iron 9 7;sack grain 9 10;ford 5;ford 9;pack 1 a left;pack 0 a right;trip");
+        Check.due("PLACE of the grain with a greater number", other.sack(1, 3), 3);
         // The greatest WORTH: 3 * 999 / 4 = 749.
         MuleTrain dear = Check.loaded("train 99 0 0;mule a 300;sack cloth 1 999;sack grain 1 999;ford 5;pack 0 a left;pack 1 a right;trip");
         Check.due("MONEY of the dear", dear.value(8), 749 + 499);

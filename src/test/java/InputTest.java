@@ -8,6 +8,7 @@ public final class InputTest {
         promise2Feed();
         promise3Load();
         promise3LinesAreDone();
+        promise3SecondText();
         promise3Lengths();
         promise3FailedLoad();
         promise4Syntax();
@@ -126,6 +127,23 @@ public final class InputTest {
         // The first road makes it tired by 10 * (1 + 1) / 10 = 2, which the rest takes; the second trip by 10 * 1 / 10 and by 5 * 1 / 10.
         Check.due("TIRED behind the text", t.mule(0, 1), 1);
         Check.due("changes behind the text", t.value(10), 0);
+    }
+
+    private static void promise3SecondText() {
+        MuleTrain t = Check.loaded("train 99 4 7;mule mule 10;mule b 10;sack grain 9 101;sack glass 1 9;ford 5;road 99;pack 0 b left;pack 1 b right;trip;rest 2");
+        Check.thrown("load with an error behind a trip", IllegalStateException.class,
+            () -> Check.load(t, "train 99 0 9;mule a 99;sack iron 9 9;sack iron 9 9;pack 1 a left;ford 9;trip;rest"));
+        Check.due("sacks of a second text", Check.load(t, "train 1 2 3;mule c 10;mule d 10;sack iron 2 5;sack iron 2 5;sack iron 2 5;pack 1 c left"), 3);
+        int[] values = {2, 3, 2, 1, 0, 0, 0, 0, 0, 0, 0};
+        for (int what = 0; what <= 10; what++) {
+            Check.due("value(" + what + ") of a second text", t.value(what), values[what]);
+        }
+        for (int what = 0; what <= 6; what++) {
+            Check.due("count(" + what + ") of a second text", t.count(what), 0);
+        }
+        Check.due("TIRED of a second text", t.mule(0, 1) + t.mule(1, 1), 0);
+        Check.due("DAY of a sack of a second text", t.sack(0, 6), -1);
+        Check.due("gap() of a second text", t.gap(), 0);
     }
 
     private static void promise3Lengths() {

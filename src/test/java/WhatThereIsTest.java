@@ -213,6 +213,7 @@ public final class WhatThereIsTest {
     private static void promise13Gap() {
         MuleTrain t = Check.loaded("train 99 0 5;mule a 100;mule b 50;sack iron 80 7;sack grain 9 8;sack glass 9 90;sack cloth 1 3;sack glass 1 0;ford 9;road 99;pack 0 a left;pack 1 a right;pack 2 a right;pack 3 b left;pack 4 b left");
         Check.due("gap() at first", t.gap(), 0);
+        Check.due("gap() of a new train", new MuleTrain().gap(), 0);
         t.trip();
         Check.due("gap() behind losses", t.gap(), 0);
         t.undo();

@@ -136,6 +136,10 @@ public final class WhatWouldBeTest {
         Check.due("bestWorth of 16 sacks", full.bestWorth(0), 15 * 990 + 45 + 15);
         Check.due("bestWorth of 299", full.bestWorth(1), 15 * 990 + 45 + 15);
         Check.due("bestWorth without sacks", Check.loaded("train 0 0 0;mule a 300").bestWorth(0), 0);
+        MuleTrain again = Check.loaded("train 99 0 0;mule a 10;mule b 10;sack iron 10 77");
+        Check.due("bestWorth before pack", again.bestWorth(1), 77);
+        again.pack(0, 0, 0);
+        Check.due("bestWorth behind pack, with the same room", again.bestWorth(1), 0);
         MuleTrain free = Check.loaded("train 0 0 0;mule a 10;sack iron 10 0");
         Check.due("bestWorth of worthless sacks", free.bestWorth(0), 0);
         noSuchMule("bestWorth", u, mule -> u.bestWorth(mule));
@@ -194,6 +198,7 @@ public final class WhatWouldBeTest {
         t.rest(1);
         t.set(1, 0);
         Check.due("freshIn(0) with 0, EASE 0", t.freshIn(0), 0);
+        Check.due("freshIn(0) with 1, EASE 50", Check.loaded("train 99 50 0;mule a 10;sack iron 1 1;road 5;pack 0 a left;trip").freshIn(0), 1);
         noSuchMule("freshIn", t, mule -> t.freshIn(mule));
     }
 
@@ -230,6 +235,8 @@ public final class WhatWouldBeTest {
         Check.due("worthOfLoads() without loads", t.worthOfLoads(), 0.0);
         MuleTrain u = Check.loaded("train 99 0 0;mule a 100;mule b 100;sack iron 2 1;sack iron 1 0;sack iron 50 900;pack 1 b left");
         Check.due("worthOfLoads() of worthless", u.worthOfLoads(), 0.0);
+        MuleTrain light = Check.loaded("train 99 0 0;mule a 100;sack iron 1 7;pack 0 a left");
+        Check.due("worthOfLoads() of one of WEIGHT 1", light.worthOfLoads(), 7.0);
         u.pack(0, 0, 1);
         Check.due("worthOfLoads() of a third", u.worthOfLoads(), 1.0 / 3.0);
         u.trip();
@@ -249,6 +256,9 @@ public final class WhatWouldBeTest {
         MuleTrain u = Check.loaded("train 99 0 0;mule a 10;sack iron 9 1;road 99;road 99;road 99;pack 0 a left;trip");
         Check.due("what it bears with TIRED 100", u.mule(0, 2), 0);
         Check.due("filled with TIRED 100", u.filled(0), 0.0f);
+        MuleTrain v = Check.loaded("train 99 0 0;mule a 10;sack iron 9 1;sack iron 1 1;road 90;pack 0 a left;trip;pack 1 a left");
+        Check.due("what it bears with TIRED 90", v.mule(0, 2), 1);
+        Check.due("filled with 1 of 1", v.filled(0), 1.0f);
         Check.due("bestWorth with TIRED 100", u.bestWorth(0), 0);
         Check.due("deepest with TIRED 100", u.deepest(0), 9);
         noSuchMule("filled", u, mule -> u.filled(mule));
