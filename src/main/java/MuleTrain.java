@@ -691,7 +691,7 @@ public final class MuleTrain {
         }
     }
 
-    /** Everything that undo() brings back, and the rules by which it changes. */
+    /** What undo() brings back stands in one object, so that undo, save and what would be are copies of it. */
     private static final class Train {
         private final Rows sacks = new Rows(MOST_SACKS, SACK_FACTS);
         private final Rows mules = new Rows(MOST_MULES, MULE_FACTS);
@@ -887,7 +887,7 @@ public final class MuleTrain {
             return NONE;
         }
 
-        /** A bit for each mule that has a sack. */
+        /** A bit for each of them, as a trip must know who began it when their sacks are gone. */
         private int mulesWithSacks() {
             int bits = 0;
             for (int sack = 0; sack < sacks.used; sack++) {
