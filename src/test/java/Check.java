@@ -8,14 +8,19 @@ final class Check {
 
     private static final int FEED = 20;
     private static int wrong = 0;
+    private static String about = "";
 
     private Check() {
     }
 
+    /** What stands ahead of the faults that are told from now on. */
+    static void about(String sentence) {
+        about = sentence;
+    }
+
     static void due(String call, double got, double want) {
         if (got != want) {
-            wrong++;
-            System.out.println(call + " answered " + got + ", due is " + want);
+            fault(call + " answered " + got + ", due is " + want);
         }
     }
 
@@ -27,14 +32,13 @@ final class Check {
             got = e.getClass().getName();
         }
         if (!got.equals(want.getName())) {
-            wrong++;
-            System.out.println(call + " threw " + got + ", due is " + want.getName());
+            fault(call + " threw " + got + ", due is " + want.getName());
         }
     }
 
     static void fault(String what) {
         wrong++;
-        System.out.println(what);
+        System.out.println(about + what);
     }
 
     static int wrongs() {
