@@ -13,6 +13,7 @@ final class BoundaryFacts extends Boundary {
         promise8What();
         promise8Trips();
         promise8AsItWasThen();
+        promise8WettingAndGlass();
         promise8Wet();
         promise8Wages();
         promise8SinceTheLatestLoad();
@@ -29,6 +30,7 @@ final class BoundaryFacts extends Boundary {
         promise12Stage();
         promise12What();
         promise13Gap();
+        promise13WorthAndMoney();
         promise14NotInTheStore();
         promise14TooHeavy();
         promise14First();
@@ -135,6 +137,23 @@ final class BoundaryFacts extends Boundary {
         due("lost WORTH of 0", none.count(2), 0);
         due("delivered WORTH of 0", none.count(1), 0);
         due("sacks that were lost", none.value(5), 1);
+    }
+
+    private static void promise8WettingAndGlass() {
+        sentence("Promise 8", "3 WORTH that was lost by wetting, together, 4 WORTH of glass that broke, together");
+        // The iron is lost in the first ford: both glasses break; 1 grain and 1 cloth of WORTH 1 become 0, and are wet twice.
+        MuleTrain t = loaded("train 99 0 0;mule a 10;sack iron 6 0;sack glass 1 1;sack glass 1 999;sack grain 1 1;sack cloth 1 1;sack grain 10 9;ford 5;ford 5;"
+            + "pack 0 a left;pack 1 a left;pack 2 a left;pack 3 a left;pack 4 a left;trip");
+        due("WORTH lost by wetting", t.count(3), 2);
+        due("WORTH of glass that broke", t.count(4), 1000);
+        due("WORTH that was delivered", t.count(1), 0);
+        due("sacks that were delivered", t.value(4), 4);
+        t.addSack(3, 1, 7);
+        t.pack(5, 0, 0);
+        t.trip();
+        due("WORTH lost by wetting, as what is lost is not wet", t.count(3), 2);
+        due("WORTH of glass in the store", t.sack(6, 2), 7);
+        due("WORTH of glass that broke before", t.count(4), 1000);
     }
 
     private static void promise8Wet() {
@@ -345,6 +364,22 @@ final class BoundaryFacts extends Boundary {
         due("gap() with TIRED 100", tired(100, 0).gap(), 0);
         MuleTrain shed = loaded("train 99 50 0;mule a 10;sack grain 9 9;sack cloth 1 7;ford 5;road 99;pack 1 a left;pack 0 a right;trip");
         due("gap() behind wetting and shedding", shed.gap(), 0);
+    }
+
+    private static void promise13WorthAndMoney() {
+        sentence("Promise 13", "Returns the differences without sign, together: of the WORTH of all sacks as it was told, and what it is in the store and on mules, with the counts 1 to 4; of MONEY, and count 1 less count 5");
+        // One sack is in the store, one on a mule, one delivered, one lost, one wet and one broken, and MONEY is below 0.
+        MuleTrain t = loaded("train 99 0 50;mule a 100;sack iron 9 1;sack iron 9 2;sack iron 9 4;sack iron 45 8;sack grain 1 16;sack glass 1 32;ford 5;"
+            + "pack 2 a left;pack 3 a left;pack 4 a right;pack 5 a right;trip;pack 1 a left");
+        int[] counts = {1, 8 + 8, 4, 8, 32, 50, 3};
+        for (int what = 0; what <= 6; what++) {
+            due("count(" + what + ")", t.count(what), counts[what]);
+        }
+        due("MONEY", t.value(8), -34);
+        due("WORTH in the store and on mules", t.sack(0, 2) + t.sack(1, 2), 3);
+        due("gap()", t.gap(), 0);
+        t.trip();
+        due("gap() behind another trip", t.gap(), 0);
     }
 
     private static void promise14NotInTheStore() {

@@ -10,6 +10,7 @@ final class BoundaryInput extends Boundary {
         promise2BufferThatIsFull();
         promise3FirstBytes();
         promise3ReplacesEverything();
+        promise3EverythingOfALoad();
         promise3OnlyTheOutputStays();
         promise3IsEmptied();
         promise3Lengths();
@@ -156,6 +157,38 @@ final class BoundaryInput extends Boundary {
         Check.load(t, "train 99 0 0;mule a 10;sack iron 1 1;pack 0 a left;trip;rest 1");
         due("changes behind lines", t.value(10), 0);
         thrown(STATE, "undo() behind lines", () -> t.undo());
+    }
+
+    private static void promise3EverythingOfALoad() {
+        sentence("Promise 3", "it replaces everything");
+        // What the lines of an earlier text did is not left over, whether that text had an error behind them or not.
+        String done = "train 99 1 9;mule a 100;mule b 100;sack grain 90 9;sack glass 1 9;sack iron 1 1;road 9;ford 1;ford 5;pack 0 a left;pack 1 a right;trip;rest 2";
+        for (String behind : new String[] {"", ";a", ";road 100"}) {
+            MuleTrain t = new MuleTrain();
+            if (behind.isEmpty()) {
+                due("load of a text with a trip", Check.load(t, done), 3);
+                due("TIRED", t.mule(0, 1), 7);
+                due("MONEY", t.value(8), -9);
+                due("DAY", t.value(7), 3);
+            } else {
+                thrown(STATE, "load of a text with a trip and an error", () -> Check.load(t, done + behind));
+            }
+            due("load of the next text", Check.load(t, "train 5 6 7;mule c 50;mule d 60;sack iron 3 4;sack iron 5 6;camp 1"), 2);
+            due("TIRED of the first mule", t.mule(0, 1), 0);
+            due("TIRED of the second mule", t.mule(1, 1), 0);
+            due("letters of the first mule", t.mule(0, 9), 1);
+            for (int sack = 0; sack <= 1; sack++) {
+                due("PLACE of " + sack, t.sack(sack, 3), 0);
+                due("DAY of " + sack, t.sack(sack, 6), MuleTrain.NONE);
+            }
+            int[] values = {2, 2, 2, 0, 0, 0, 1, 0, 0, 0, 0};
+            for (int what = 0; what <= 10; what++) {
+                due("value(" + what + ")", t.value(what), values[what]);
+            }
+            for (int what = 0; what <= 6; what++) {
+                due("count(" + what + ")", t.count(what), 0);
+            }
+        }
     }
 
     private static void promise3OnlyTheOutputStays() {

@@ -14,6 +14,7 @@ final class BoundaryTexts extends Boundary {
         sides();
         settingsInTheirOrder();
         restDays();
+        whatTheLinesDo();
         inTheOrderOfTheLines();
         lettersAndDigits();
         asLongAsPossible();
@@ -23,6 +24,7 @@ final class BoundaryTexts extends Boundary {
         leastCode();
         syntaxOfTokens();
         syntaxOfNames();
+        syntaxOfTokensWithoutBlank();
         syntaxOfDigits();
         syntaxOfOtherBytes();
         syntaxAtTheEnd();
@@ -115,6 +117,29 @@ final class BoundaryTexts extends Boundary {
         rangeInText(1, 99, HEAD + ";rest #");
         due("DAY behind the least", loaded(HEAD + ";rest 1").value(7), 1);
         due("DAY behind the most", loaded(HEAD + ";rest 99").value(7), 99);
+    }
+
+    private static void whatTheLinesDo() {
+        sentence("Section 6", "\"mule\" adds a mule with its STRENGTH, \"sack\" a sack with WEIGHT and WORTH; \"road\", \"ford\" and \"camp\" add a stage behind the others;"
+            + " \"pack\" packs a sack on a side of a mule; \"trip\" makes a trip;");
+        MuleTrain t = loaded("train 99 50 1;mule a 300;mule b 10;sack glass 99 999;sack grain 1 0;road 99;ford 1;camp 24;pack 0 a right;pack 1 b left");
+        due("STRENGTH of the first", t.mule(0, 0), 300);
+        due("STRENGTH of the second", t.mule(1, 0), 10);
+        due("WEIGHT of the first", t.sack(0, 1), 99);
+        due("WORTH of the first", t.sack(0, 2), 999);
+        due("WEIGHT of the second", t.sack(1, 1), 1);
+        due("WORTH of the second", t.sack(1, 2), 0);
+        int[] numbers = {99, 1, 24};
+        for (int stage = 0; stage < 3; stage++) {
+            due("kind of the stage " + stage, t.stage(stage, 0), stage);
+            due("number of the stage " + stage, t.stage(stage, 1), numbers[stage]);
+        }
+        due("mule and side of the first", 10 * t.sack(0, 4) + t.sack(0, 5), 1);
+        due("mule and side of the second", 10 * t.sack(1, 4) + t.sack(1, 5), 10);
+        MuleTrain trip = loaded("train 99 50 1;mule a 300;mule b 10;sack glass 99 999;sack grain 1 0;pack 0 a right;pack 1 b left;trip");
+        due("MONEY behind the trip", trip.value(8), 997);
+        due("DAY behind the trip", trip.value(7), 1);
+        due("trips", trip.count(0), 1);
     }
 
     private static void inTheOrderOfTheLines() {
@@ -245,6 +270,18 @@ final class BoundaryTexts extends Boundary {
         error(1, HEAD + ";mule abcdef 10;sack iron 1 1;pack 0 ^abcdefg left");
         error(3, HEAD + ";mule abcdef 10;sack iron 1 1;pack 0 ^abcdeg left");
         error(3, HEAD + ";mule abcdef 10;sack iron 1 1;pack 0 ^abcde left");
+    }
+
+    private static void syntaxOfTokensWithoutBlank() {
+        sentence("Section 6", "a word or number directly behind a word or number; a number of more than 3 digits");
+        due("DAY of a number behind a blank", loaded(HEAD + ";rest 1").value(7), 1);
+        error(1, HEAD + ";rest^1");
+        error(1, HEAD + ";rest 1^a");
+        error(1, HEAD + ";rest 1^rest 1");
+        error(1, HEAD + ";mule a^50");
+        error(1, PACKED + ";pack 0 a^0");
+        error(1, PACKED + ";pack 0 a left^0");
+        error(1, PACKED + ";pack 0 a left^0left");
     }
 
     private static void syntaxOfDigits() {
