@@ -2,11 +2,10 @@ import java.io.IOException;
 import java.io.UncheckedIOException;
 import java.nio.file.Files;
 import java.nio.file.Path;
+import java.util.List;
 import java.util.Map;
 import java.util.NoSuchElementException;
-import java.util.Set;
 import java.util.TreeMap;
-import java.util.TreeSet;
 
 /** What the boundary tests share: the sentence of the document that asks for them stands ahead of the answers. */
 abstract class Boundary {
@@ -27,50 +26,84 @@ abstract class Boundary {
     static final String HEAD = "train 0 0 0";
     static final String TILTED = "train 99 0 0";
 
+    private static final String TITLE = "# MuleTrain";
     private static final Map<String, String> PARTS = partsOfDocument();
-    private static final Set<String> TESTED = new TreeSet<>();
+
+    /** What no test has named yet of each part. */
+    private static final Map<String, StringBuilder> UNTESTED = untestedParts();
 
     /** What follows holds this sentence, which must stand in this part of the document to the letter. */
     static void sentence(String part, String sentence) {
         Check.about(part + " [" + sentence + "]: ");
-        TESTED.add(part);
-        if (!PARTS.getOrDefault(part, "").contains(sentence)) {
-            Check.fault("this sentence does not stand in the document");
+        nameSentence(part, sentence);
+    }
+
+    /** What follows holds two sentences where they meet. */
+    static void meeting(String part, String sentence, String otherPart, String otherSentence) {
+        Check.about(part + " [" + sentence + "] and " + otherPart + " [" + otherSentence + "]: ");
+        nameSentence(part, sentence);
+        nameSentence(otherPart, otherSentence);
+    }
+
+    private static void nameSentence(String part, String sentence) {
+        String text = partOfDocument(part);
+        int at = text.indexOf(sentence);
+        if (at < 0) {
+            Check.fault("[" + sentence + "] does not stand in " + part + " of the document");
+        }
+        for (; at >= 0; at = text.indexOf(sentence, at + 1)) {
+            UNTESTED.get(part).replace(at, at + sentence.length(), " ".repeat(sentence.length()));
         }
     }
 
-    static void everyPartIsTested() {
+    static void everySentenceIsTested() {
         Check.about("");
-        for (String part : PARTS.keySet()) {
-            if (!TESTED.contains(part)) {
-                Check.fault(part + " has no test of a boundary");
+        for (Map.Entry<String, StringBuilder> part : UNTESTED.entrySet()) {
+            for (String rest : part.getValue().toString().split(" {2,}|\n")) {
+                if (rest.matches(".*[A-Za-z0-9].*")) {
+                    Check.fault(part.getKey() + " has no test of [" + rest.strip() + "]");
+                }
             }
         }
-        Check.due("parts of the document (Terms, 6 sections, 41 promises)", PARTS.size(), 48);
+        Check.due("parts of the document (Terms, 6 sections, 41 promises, 2 ahead of them)", PARTS.size(), 50);
     }
 
-    /** By names like "Terms", "Section 4" and "Promise 30". */
+    private static Map<String, StringBuilder> untestedParts() {
+        Map<String, StringBuilder> untested = new TreeMap<>();
+        for (Map.Entry<String, String> part : PARTS.entrySet()) {
+            untested.put(part.getKey(), new StringBuilder(part.getValue()));
+        }
+        return untested;
+    }
+
+    static String partOfDocument(String part) {
+        return PARTS.getOrDefault(part, "");
+    }
+
+    /** By names like "Terms", "Section 4" and "Promise 30"; their headings, and the fences of texts, are no sentences. */
     private static Map<String, String> partsOfDocument() {
         Map<String, String> parts = new TreeMap<>();
         String part = "";
-        for (String line : linesOfDocument()) {
+        for (String line : linesOf("../shared/DOC.md")) {
             if (line.matches("## Promise \\d+: .*")) {
                 part = line.substring(3, line.indexOf(':'));
             } else if (line.matches("\\d\\. [A-Z ,]+")) {
                 part = "Section " + line.charAt(0);
             } else if (line.startsWith("## ")) {
-                part = line.equals("## Terms") ? "Terms" : "";
-            }
-            if (!part.isEmpty()) {
+                part = line.substring(3);
+            } else if (!line.equals(TITLE) && !line.startsWith("```")) {
                 parts.merge(part, line + "\n", String::concat);
             }
         }
+        parts.remove("");
+        // It says what is free: there is nothing to hold.
+        parts.remove("Not promised");
         return parts;
     }
 
-    private static Iterable<String> linesOfDocument() {
+    static List<String> linesOf(String file) {
         try {
-            return Files.readAllLines(Path.of("../shared/DOC.md"));
+            return Files.readAllLines(Path.of(file));
         } catch (IOException e) {
             throw new UncheckedIOException(e);
         }

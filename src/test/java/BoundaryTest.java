@@ -1,6 +1,9 @@
-/** Issue 7: each sentence of the document that names a boundary case, one test of its own for each. */
+/** Each sentence of the document, one test of its own at least for each: boundary cases, what it says plainly, and where two meet. */
 public final class BoundaryTest {
     public static void main(String[] args) {
+        BoundaryFace.run();
+        BoundaryParameters.run();
+        BoundaryPlain.run();
         BoundaryTerms.run();
         BoundaryTrips.run();
         BoundaryTexts.run();
@@ -10,7 +13,8 @@ public final class BoundaryTest {
         BoundaryChanges.run();
         BoundaryUndo.run();
         BoundaryOutput.run();
-        Boundary.everyPartIsTested();
+        BoundaryMeetings.run();
+        Boundary.everySentenceIsTested();
         Check.end();
     }
 }
