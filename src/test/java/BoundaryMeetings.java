@@ -251,11 +251,14 @@ final class BoundaryMeetings extends Boundary {
         t.save(1);
         String before = Check.all(t);
         int length = t.writeWay();
-        for (String behind : new String[] {";rest 0", ";trip", ";mule ann 50", ";pack 5 ann left", ";pack 6 bob left", ";mule a 10;mule b 10;mule c 10", ";"}) {
-            thrown(STATE, "load with " + behind, () -> Check.load(t, ROUGH + ";trip;trip".substring(0, 5) + behind));
+        String[] errors = {";rest 0", ";trip", ";mule ann 50", ";pack 5 ann left", ";pack 6 bob left", ";mule a 10;mule b 10;mule c 10", ";"};
+        int[] codes = {2, 6, 4, 6, 3, 5, 1};
+        for (int each = 0; each < errors.length; each++) {
+            String text = ROUGH + ";trip" + errors[each];
+            thrown(STATE, "load of " + text, () -> Check.load(t, text));
+            due("errorCode() of " + text, t.errorCode(), codes[each]);
         }
         same("loads with errors", before, t);
-        due("errorCode() of the last", t.errorCode(), 1);
         Check.output("the output", t, length, "road40 ford5 camp8");
         due("undo()", t.undo(), 0);
         due("restore(1)", t.restore(1), 1);
