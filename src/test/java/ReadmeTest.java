@@ -1,3 +1,4 @@
+import java.io.File;
 import java.nio.file.Files;
 import java.nio.file.Path;
 import java.util.ArrayList;
@@ -51,7 +52,7 @@ public final class ReadmeTest {
             named.add(names.group(1) + ".java");
         }
         List<String> there = new ArrayList<>();
-        for (java.io.File file : Path.of("src/test/java").toFile().listFiles()) {
+        for (File file : Path.of("src/test/java").toFile().listFiles()) {
             if (file.getName().endsWith("Test.java")) {
                 there.add(file.getName());
             }
@@ -116,9 +117,9 @@ public final class ReadmeTest {
         MuleTrain train = new MuleTrain();
         train.save(1);
         train.rest(1);
-        int code = -1;
-        int position = -1;
         String text = "train 20 10 3; mule ada 90; sack iron 40 70; pack 0 ada left; trip";
+        int code = 0;
+        int position = -1;
         feed(train, text);
         try {
             train.load(text.length());
